@@ -11,7 +11,7 @@ public final class InchCandle {
     private static final int SIZE_BELOW_0 = -14, PARTED_BY_0 = -15;
     private static final int NOBODY = -9, NOTHING = -9;
     private static final int MOST_LOTS = 5, MOST_BIDDERS = 6, PLACES = 12;
-    private static final int MOST_WAX = 60, MOST_WORTH = 99, MOST_STEP = 20, MOST_DRAUGHT = 3;
+    private static final int MOST_WAX = 60, MOST_WORTH = 99, MOST_STEP = 20, FIRST_STEP = 5, MOST_DRAUGHT = 3;
     private static final int MOST_A = 9, MOST_VALUE = 999, MOST_PURSE = 9999;
     private static final int SHEETS = 4, SHELVES = 4;
 
@@ -520,7 +520,7 @@ public final class InchCandle {
     }
 
     public int trace(int i) {
-        return within(i, 0, deed.count - 1) ? deed.bodyAt(i) : NONE;
+        return deed.bodyAt(i);
     }
 
     public int many(int what) {
@@ -643,7 +643,7 @@ public final class InchCandle {
         }
 
         int raise(int step) {
-            return isUnder(kind, LEAPER) ? 2 * step + a : step;
+            return kind == LEAPER || kind == BROKER ? 2 * step + a : step;
         }
 
         /** Whether this is a moment to call, by the candle and HIGH alone. */
@@ -669,7 +669,7 @@ public final class InchCandle {
         private final Bidder[] bidders = new Bidder[MOST_BIDDERS];
         private int bidderCount = 0;
         private final int[] draughts = new int[PLACES];
-        private int step = 5;
+        private int step = FIRST_STEP;
         private int z = 1;
         private int theLot = NOTHING;
         private int tick = 0;
@@ -686,14 +686,14 @@ public final class InchCandle {
             }
         }
 
+        /** As a TEXT that tells nothing has it; z is in no TEXT and stays. */
         void clear() {
             lotCount = 0;
             bidderCount = 0;
             for (int i = 0; i < PLACES; i++) {
                 draughts[i] = 0;
             }
-            step = 5;
-            z = 1;
+            step = FIRST_STEP;
             theLot = NOTHING;
         }
 
@@ -879,6 +879,8 @@ public final class InchCandle {
 
     /** TRIALS of LOTS of a real hall, played on a copy of it, so that nothing changes there. */
     private static final class Trials {
+        /** As many as 5 LOTS have. */
+        private static final int MOST_ORDERS = 120;
         private final Hall stage = new Hall();
         private int best = NONE;
         private int bestPrice = 0;
@@ -999,15 +1001,18 @@ public final class InchCandle {
         void findBestOrder(Hall real) {
             forgetBest();
             stage.copy(real);
-            int lots = listUnsold(real);
             savePurses(pursesAt[0]);
+            int lots = listUnsold(real);
             int from = 0;
-            for (int tries = 0; tries < 120 && from >= 0; tries++) {
-                playOrder(from, lots);
-                int sum = sumAt[lots];
-                if (best == NONE || sum > bestPrice) {
-                    best = tries;
-                    bestPrice = sum;
+            for (int tries = 0; tries < MOST_ORDERS && from >= 0; tries++) {
+                loadPurses(pursesAt[from]);
+                for (int i = from; i < lots; i++) {
+                    burnOnStage(order[i], null);
+                    sumAt[i + 1] = sumAt[i] + price(order[i]);
+                    savePurses(pursesAt[i + 1]);
+                }
+                weighGreatest(tries, sumAt[lots]);
+                if (best == tries) {
                     System.arraycopy(order, 0, bestOrder, 0, lots);
                 }
                 from = stepOrder(lots);
@@ -1024,15 +1029,6 @@ public final class InchCandle {
                 }
             }
             return lots;
-        }
-
-        private void playOrder(int from, int lots) {
-            loadPurses(pursesAt[from]);
-            for (int i = from; i < lots; i++) {
-                burnOnStage(order[i], null);
-                sumAt[i + 1] = sumAt[i] + price(order[i]);
-                savePurses(pursesAt[i + 1]);
-            }
         }
 
         /** The order becomes the next one by LOTS: the first place that changed, or NONE. */
@@ -1228,7 +1224,7 @@ public final class InchCandle {
         /** Where the row of bytes from one sign to another ends that begins where the reading is. */
         private int endOfRow(char first, char last) {
             int end = at;
-            while (end < size && within(bytes[end], first, last)) {
+            while (end < size && bytes[end] >= first && bytes[end] <= last) {
                 end++;
             }
             return end;
@@ -1412,7 +1408,7 @@ public final class InchCandle {
         }
 
         int bodyAt(int i) {
-            return within(i, 0, count - 1) && i < MOST_BODIES ? bodies[i] : NONE;
+            return i >= 0 && i < count && i < MOST_BODIES ? bodies[i] : NONE;
         }
 
         int doneBy(Bidder actor, int number, int act, int x) {

@@ -32,6 +32,7 @@ public final class HostTest {
         Due.is("sheet(0, 0, -1)", x.sheet(0, 0, -1), -14);
         Due.is("the row stays", x.item(0, 2, 39), 40);
         Due.is("sheet(0, 2, 3)", x.sheet(0, 2, 3), 1);
+        Due.is("all 0", x.item(0, 2, 0), 0);
         Due.is("all 0", x.item(0, 2, 2), 0);
         Due.is("item(0, 2, 3)", x.item(0, 2, 3), -12);
         Due.is("sheet(0, 2, 40)", x.sheet(0, 2, 40), 1);
@@ -107,6 +108,9 @@ public final class HostTest {
         Due.is("the row that the SHEET had", x.taken(3, 10), 9);
         Due.is("shelf(3, 1, 2) of one missing", x.shelf(3, 1, 2), 1);
         Due.is("nothing", x.taken(3, 10), -11);
+        x.shelf(3, 0, 1);
+        Due.is("shelf(3, 1, 2) over a BIDDER", x.shelf(3, 1, 2), 1);
+        Due.is("nothing", x.taken(3, 0), -11);
         x.sheet(2, 0, 0);
         x.shelf(3, 1, 2);
         Due.is("a row of 0", x.taken(3, 10), 0);

@@ -56,6 +56,8 @@ public final class KeptTest {
             Due.is("LOTS", x.many(0), 2);
             Due.is("BIDDERS", x.many(1), 2);
             Due.is("LOTS sold", x.many(2), 1);
+            Due.is("LOT 0 is not sold", x.lotOf(0, 2), 0);
+            Due.is("LOT 1 is sold", x.lotOf(1, 2), 1);
             Due.is("WAX", x.lotOf(1, 0), 5);
             Due.is("WORTH", x.lotOf(1, 1), 60);
             Due.is("PRICE", x.lotOf(1, 3), price);

@@ -84,6 +84,13 @@ public final class RowsTest {
         x.prove(0);
         x.purse(2, 1, 14);
         Due.is("more are wrong", x.judge(0), 3);
+        x.alterRow(2, 0, -9);
+        x.alterRow(2, 1, -9);
+        x.alterRow(2, 2, -9);
+        Due.is("more are wrong, whatever they tell", x.judge(0), 3);
+        x.alterRow(2, 0, 4);
+        x.alterRow(2, 1, 2);
+        x.alterRow(2, 2, 15);
         x.purse(2, 1, 15);
         x.bidder(5, 0, 99, 20);
         Due.is("fewer", x.judge(0), 222);

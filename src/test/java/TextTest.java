@@ -75,6 +75,7 @@ public final class TextTest {
         text("lot 0005worth06;lot 5 worth 6;", 2);
         text("draught 1 1;", 0);
         text("draught11 3;", 0);
+        text("draught 0 0;draught 11 0;", 0);
         text("draught 11;", -110);
         text("draught 113;", -108);
         text("draught 1 1 1;", -112);
@@ -187,5 +188,34 @@ public final class TextTest {
         Due.is("DRAUGHTS kept", x.draught(3, 3), 3);
         Due.is("an empty TAPE", x.hall(), 0);
         Due.is("many(0)", x.many(0), 0);
+        for (int place = 0; place < 12; place++) {
+            Due.is("DRAUGHT", x.draught(place, 0), 0);
+        }
+        byItAlone();
+        usedUp();
+    }
+
+    private static void byItAlone() {
+        InchCandle x = Due.hall("draught 0 3;draught 11 2;draught 6 1;step 9;blind 1 value 1 purse 1;");
+        Due.feed(x, "draught 6 3;late 2 value 2 purse 2;");
+        Due.is("hall()", x.hall(), 0);
+        Due.is("BIDDERS", x.many(1), 1);
+        Due.is("KIND", x.bidderOf(0, 0), 1);
+        for (int place = 0; place < 12; place++) {
+            Due.is("DRAUGHT", x.draught(place, 0), place == 6 ? 3 : 0);
+        }
+        Due.is("STEP", x.step(1), 5);
+        Due.is("all PURSES", x.owed(1), 2);
+    }
+
+    /** What an earlier TAPE had behind the end of this one counts no more. */
+    private static void usedUp() {
+        InchCandle x = new InchCandle();
+        String[] texts = {"step 12;", "step 1", "lot 5 worth 5;", "lot 5 worth 5", "step 1;", "ste", "lot 5 worth ", "step 12  ;", "step 12"};
+        int[] want = {0, -106, 1, -113, 0, -100, -112, 0, -107};
+        for (int i = 0; i < texts.length; i++) {
+            Due.feed(x, texts[i]);
+            Due.is("hall() of " + texts[i], x.hall(), want[i]);
+        }
     }
 }

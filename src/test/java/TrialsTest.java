@@ -284,6 +284,30 @@ public final class TrialsTest {
         Due.is("order(15) of none", x.order(15), -1);
         secondFirst();
         ofThree();
+        lastRowOfAll();
+    }
+
+    private static void lastRowOfAll() {
+        InchCandle x = Due.hall("lot 3 worth 31;lot 4 worth 17;lot 6 worth 24;lot 5 worth 67;lot 2 worth 62;"
+            + "late 2 value 68 purse 32;leaper 4 value 46 purse 29;bidder 7 value 57 purse 35;");
+        Due.is("order(0)", x.order(0), 77);
+        for (int i = 0; i < 5; i++) {
+            Due.is("order(" + (10 + i) + ")", x.order(10 + i), 4 - i);
+        }
+        x.keep();
+        Due.is("sold in that order", soldBy(x, 4, 3, 2, 1, 0), 77);
+        x.again();
+        Due.yes("sold by numbers", soldBy(x, 0, 1, 2, 3, 4) < 77);
+        x.again();
+        Due.yes("sold but for the last", soldBy(x, 4, 3, 2, 0, 1) < 77);
+    }
+
+    private static int soldBy(InchCandle x, int... order) {
+        for (int lot : order) {
+            x.light(lot);
+            x.ticks(60);
+        }
+        return x.owed(0);
     }
 
     private static void secondFirst() {
@@ -361,16 +385,32 @@ public final class TrialsTest {
         Due.is("owed(2)", x.owed(2), 0);
         for (int lot = 0; lot < 3; lot++) {
             x.light(lot);
-            if (lot > 0) {
-                x.call(lot - 1, 10 * lot);
+            if (lot != 1) {
+                x.call(lot / 2, 10 + 5 * lot);
             }
             x.snuff();
         }
-        Due.is("owed(0)", x.owed(0), 30);
+        x.light(3);
+        x.call(0, 77);
+        Due.is("owed(0), 10 and 20", x.owed(0), 30);
         Due.is("owed(1)", x.owed(1), 10019);
         Due.is("owed(2)", x.owed(2), 1);
         Due.is("owed(3)", x.owed(3), -1);
         Due.is("owed(-1)", x.owed(-1), -1);
+        InchCandle full = new InchCandle();
+        for (int i = 0; i < 6; i++) {
+            full.lot(1, 1);
+            full.bidder(0, 0, 0, 9999);
+        }
+        Due.is("owed(1)", full.owed(1), 59994);
+        for (int lot = 0; lot < 5; lot++) {
+            full.light(lot);
+            full.call(lot, 9999);
+            full.snuff();
+        }
+        Due.is("owed(0)", full.owed(0), 49995);
+        Due.is("owed(1)", full.owed(1), 9999);
+        Due.is("owed(2)", full.owed(2), 0);
     }
 
     private static void drawn() {
