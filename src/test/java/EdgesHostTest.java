@@ -522,6 +522,14 @@ public final class EdgesHostTest {
         Due.sentence(42, "that is all that act() answers then: no body behind it begins");
         parted(2, 3, 3, "31 13 11 30 10 12");
         parted(4, 3, 3, "31 13 41 11 40 30 10 40 30 10 12");
+        Due.sentence(42, "of the act() behind it all is as it must be");
+        InchCandle x = Due.hall("leaper 0 value 1 purse 1;leaper 0 value 1 purse 1;");
+        x.shelf(0, 0, 0);
+        x.shelf(1, 0, 1);
+        Due.is("act(0, 3, 7)", x.act(0, 3, 7), -15);
+        Due.is("act(1, 3, 7)", x.act(1, 3, 7), 48 - 1);
+        Due.is("many(5)", x.many(5), 6);
+        Due.is("trace(5)", x.trace(5), 12);
         Due.sentence(42, "1 more and 1 less are not the same");
         act(0, 3, 4, 2, 7, 7);
         act(0, 3, 2, 2, 7, -7);

@@ -238,6 +238,11 @@ public final class EdgesRowsTest {
         Due.is("judge(0), 3 of 1", x.judge(0), 2);
         setCalls(x, 0);
         Due.is("judge(0), 3 of none", x.judge(0), 1);
+        Due.sentence(35, "more are wrong, whatever they tell");
+        for (int what = 0; what < 3; what++) {
+            x.alterRow(0, what, -9);
+        }
+        Due.is("judge(0), -9 thrice of none", x.judge(0), 1);
     }
 
     private static void judgeTwenty() {

@@ -468,6 +468,23 @@ public final class EdgesTextTest {
         Due.sentence(3, "with a FAULT ROWS stay");
         Due.yes("many(3)", x.many(3) > 0);
         Due.is("row(0, 2)", x.row(0, 2), 5);
+        Due.sentence(3, "of a TEXT with a FAULT nothing is in the next one, nor of one ahead");
+        InchCandle z = new InchCandle();
+        String text = LOT.repeat(5) + LATE.repeat(2) + "step 9;draught 0 3;draught 11 3;";
+        Due.feed(z, text + "x");
+        Due.is("hall()", z.hall(), -248);
+        Due.feed(z, LATE.repeat(6));
+        Due.is("hall()", z.hall(), 0);
+        Due.is("many(1)", z.many(1), 6);
+        Due.is("step(5)", z.step(5), 5);
+        Due.is("draught(0, 0)", z.draught(0, 0), 0);
+        Due.is("draught(11, 0)", z.draught(11, 0), 0);
+        Due.feed(z, text);
+        Due.is("hall()", z.hall(), 5);
+        Due.is("hall()", z.hall(), 0);
+        Due.is("step(5)", z.step(5), 5);
+        Due.is("draught(0, 0)", z.draught(0, 0), 0);
+        Due.is("draught(11, 0)", z.draught(11, 0), 0);
         Due.sentence(3, "with a FAULT all stays but THE TAPE");
         Due.same("parts", Told.parts(() -> {
             InchCandle y = lively();

@@ -398,6 +398,18 @@ public final class EdgesTicksTest {
         u.ticks(1);
         Due.is("to whom", u.lotOf(0, 4), 2);
         Due.is("PRICE", u.lotOf(0, 3), 10);
+        Due.sentence(17, "the least CALL there is, 1, and the most that a LIMIT lets");
+        InchCandle v = Due.hall("lot 1 worth 99;lot 1 worth 99;bidder 0 value 999 purse 9999;step 1;");
+        v.light(0);
+        v.ticks(1);
+        Due.is("to whom", v.lotOf(0, 4), 0);
+        Due.is("PRICE", v.lotOf(0, 3), 1);
+        v.bidder(0, 0, 0, 9999);
+        v.light(1);
+        v.call(1, 988);
+        v.ticks(1);
+        Due.is("to whom", v.lotOf(1, 4), 0);
+        Due.is("PRICE", v.lotOf(1, 3), 989);
         Due.sentence(17, "CALLS go ahead of the burning: all 6 in the only TICK there is");
         InchCandle w = Due.hall("lot 1 worth 99;" + "bidder 0 value 99 purse 99;".repeat(6));
         w.light(0);

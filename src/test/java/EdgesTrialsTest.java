@@ -433,8 +433,21 @@ public final class EdgesTrialsTest {
         Due.sentence(27, "the row with the greatest sum of PRICES: both bring the same");
         x.purse(0, 1, 10);
         order(x, 15, 0, 1);
+        Due.sentence(27, "the row with the greatest sum of PRICES: the last of 120 rows");
+        InchCandle y = Due.hall("lot 3 worth 31;lot 4 worth 17;lot 6 worth 24;lot 5 worth 67;lot 2 worth 62;"
+            + "late 2 value 68 purse 32;leaper 4 value 46 purse 29;bidder 7 value 57 purse 35;");
+        order(y, 77, 4, 3, 2, 1, 0);
+        Due.is("sold in that row", soldBy(y, 4, 3, 2, 1, 0), 77);
         Due.sentence(27, "PURSES stay as they are");
         Due.is("owed(1)", x.owed(1), 20);
+    }
+
+    private static int soldBy(InchCandle x, int... lots) {
+        for (int lot : lots) {
+            x.light(lot);
+            x.ticks(60);
+        }
+        return x.owed(0);
     }
 
     private static void orderTheLot() {
