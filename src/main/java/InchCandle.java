@@ -13,6 +13,8 @@ public final class InchCandle {
     private static final int MOST_LOTS = 5, MOST_BIDDERS = 6, PLACES = 12;
     private static final int MOST_WAX = 60, MOST_WORTH = 99, MOST_STEP = 20, FIRST_STEP = 5, MOST_DRAUGHT = 3;
     private static final int MOST_A = 9, MOST_VALUE = 999, MOST_PURSE = 9999;
+    /** A TICK burns 1 at least, so that no candle lasts for more of them than it may have WAX. */
+    private static final int MOST_TICKS = MOST_WAX;
     private static final int SHEETS = 4, SHELVES = 4;
 
     private static final int PLAIN = 0, LATE = 1, LEAPER = 2, SNIPER = 3, BROKER = 4, BLIND = 5;
@@ -222,7 +224,7 @@ public final class InchCandle {
     }
 
     public int ticks(int n) {
-        if (!within(n, 0, MOST_WAX)) {
+        if (!within(n, 0, MOST_TICKS)) {
             return BAD;
         }
         return hall.goTicks(n, null);
@@ -892,14 +894,13 @@ public final class InchCandle {
 
         /** How many TICKS it takes; told (or null) takes the CALLS. */
         int burnAnew(Hall real, int lot, Rows told) {
-            stage.copy(real);
-            return burnOnStage(lot, told);
+            setStage(real, lot);
+            return stage.goTicks(MOST_TICKS, told);
         }
 
-        // a TICK burns 1 at least, so that as many TICKS as there is WAX at most are enough
-        private int burnOnStage(int lot, Rows told) {
+        private void setStage(Hall real, int lot) {
+            stage.copy(real);
             stage.setAlight(lot);
-            return stage.goTicks(MOST_WAX, told);
         }
 
         int price(int lot) {
@@ -934,12 +935,12 @@ public final class InchCandle {
         int bestPatience(Hall real, int bidder, int lot) {
             forgetBest();
             for (int a = 0; a <= MOST_A; a++) {
-                stage.copy(real);
+                setStage(real, lot);
                 Bidder patient = stage.bidderAt(bidder);
                 if (patient != null) {
                     patient.a = a;
                 }
-                burnOnStage(lot, null);
+                stage.goTicks(MOST_TICKS, null);
                 if (winner(lot) == bidder) {
                     weighLeast(a, price(lot));
                 }
@@ -951,9 +952,9 @@ public final class InchCandle {
             forgetBest();
             for (int place = 0; place < PLACES; place++) {
                 for (int v = 0; v <= MOST_DRAUGHT; v++) {
-                    stage.copy(real);
+                    setStage(real, lot);
                     stage.draughts[place] = v;
-                    burnOnStage(lot, null);
+                    stage.goTicks(MOST_TICKS, null);
                     if (winner(lot) == bidder) {
                         weighLeast(10 * place + v, price(lot));
                     }
@@ -965,12 +966,12 @@ public final class InchCandle {
         int bestWax(Hall real, int lot) {
             forgetBest();
             for (int wax = 1; wax <= MOST_WAX; wax++) {
-                stage.copy(real);
+                setStage(real, lot);
                 Lot trimmed = stage.lotAt(lot);
                 if (trimmed != null) {
                     trimmed.wax = wax;
                 }
-                burnOnStage(lot, null);
+                stage.goTicks(MOST_TICKS, null);
                 weighGreatest(wax, price(lot));
             }
             return best;
@@ -979,13 +980,13 @@ public final class InchCandle {
         int bestSilent(Hall real, int lot) {
             forgetBest();
             for (int bidder = 0; bidder < real.bidderCount; bidder++) {
-                stage.copy(real);
+                setStage(real, lot);
                 Bidder silenced = stage.bidderAt(bidder);
                 if (silenced != null) {
                     // a LIMIT of 0 lets nobody CALL, as a CALL is 1 at least
                     silenced.value = 0;
                 }
-                burnOnStage(lot, null);
+                stage.goTicks(MOST_TICKS, null);
                 if (winner(lot) != NOBODY) {
                     weighLeast(bidder, price(lot));
                 }
@@ -1007,7 +1008,8 @@ public final class InchCandle {
             for (int tries = 0; tries < MOST_ORDERS && from >= 0; tries++) {
                 loadPurses(pursesAt[from]);
                 for (int i = from; i < lots; i++) {
-                    burnOnStage(order[i], null);
+                    stage.setAlight(order[i]);
+                    stage.goTicks(MOST_TICKS, null);
                     sumAt[i + 1] = sumAt[i] + price(order[i]);
                     savePurses(pursesAt[i + 1]);
                 }
@@ -1394,6 +1396,8 @@ public final class InchCandle {
      */
     private static final class Deed {
         private static final int MOST_BODIES = 30;
+        /** Far above what any KIND needs: tells, hears and calls, each from its own KIND up, are nine. */
+        private static final int MOST_DEPTH = 40;
         private final int[] bodies = new int[MOST_BODIES];
         private int count = 0;
         /** Once parted by 0, no more bodies begin and what is answered counts no more. */
@@ -1421,10 +1425,10 @@ public final class InchCandle {
 
         private int answerTo(int act, int x) {
             switch (act) {
-                case 0: return calls(this, own, x);
-                case 1: return hears(this, own, x);
-                case 2: return shares(this, own, x);
-                default: return tells(this, own, x);
+                case 0: return calls(this, own, x, 0);
+                case 1: return hears(this, own, x, 0);
+                case 2: return shares(this, own, x, 0);
+                default: return tells(this, own, x, 0);
             }
         }
 
@@ -1435,70 +1439,82 @@ public final class InchCandle {
             }
         }
 
-        private static int calls(Deed deed, int kind, int x) {
+        private static int calls(Deed deed, int kind, int x, int depth) {
+            if (depth >= MOST_DEPTH) {
+                return 0;
+            }
             switch (kind) {
                 case PLAIN:
                     deed.begin(10);
                     return x + deed.n;
                 case LEAPER:
                     deed.begin(30);
-                    return calls(deed, PLAIN, x) * 3;
+                    return calls(deed, PLAIN, x, depth + 1) * 3;
                 case BROKER:
                     deed.begin(40);
-                    return 0 - calls(deed, LEAPER, x);
+                    return 0 - calls(deed, LEAPER, x, depth + 1);
                 case SNIPER:
                     deed.begin(51);
-                    return calls(deed, LATE, x) - deed.n;
+                    return calls(deed, LATE, x, depth + 1) - deed.n;
                 default:
-                    return calls(deed, kindAbove(kind), x);
+                    return calls(deed, kindAbove(kind), x, depth + 1);
             }
         }
 
-        private static int hears(Deed deed, int kind, int x) {
+        private static int hears(Deed deed, int kind, int x, int depth) {
+            if (depth >= MOST_DEPTH) {
+                return 0;
+            }
             switch (kind) {
                 case PLAIN:
                     deed.begin(11);
-                    return calls(deed, deed.own, x) * 2;
+                    return calls(deed, deed.own, x, depth + 1) * 2;
                 case LATE:
                     deed.begin(20);
-                    return hears(deed, PLAIN, x) - deed.a;
+                    return hears(deed, PLAIN, x, depth + 1) - deed.a;
                 case BROKER:
                     deed.begin(41);
-                    return hears(deed, LEAPER, x) + calls(deed, deed.own, deed.n);
+                    return hears(deed, LEAPER, x, depth + 1) + calls(deed, deed.own, deed.n, depth + 1);
                 default:
-                    return hears(deed, kindAbove(kind), x);
+                    return hears(deed, kindAbove(kind), x, depth + 1);
             }
         }
 
-        private static int shares(Deed deed, int kind, int x) {
+        private static int shares(Deed deed, int kind, int x, int depth) {
+            if (depth >= MOST_DEPTH) {
+                return 0;
+            }
             switch (kind) {
                 case PLAIN:
                     deed.begin(12);
                     return deed.quotient(x, deed.a - deed.n);
                 case SNIPER:
                     deed.begin(50);
-                    return shares(deed, LATE, x + 2) ^ 1;
+                    return shares(deed, LATE, x + 2, depth + 1) ^ 1;
                 case BLIND:
                     deed.begin(61);
-                    return shares(deed, LATE, x) + calls(deed, deed.own, deed.a);
+                    return shares(deed, LATE, x, depth + 1) + calls(deed, deed.own, deed.a, depth + 1);
                 default:
-                    return shares(deed, kindAbove(kind), x);
+                    return shares(deed, kindAbove(kind), x, depth + 1);
             }
         }
 
-        private static int tells(Deed deed, int kind, int x) {
+        private static int tells(Deed deed, int kind, int x, int depth) {
+            if (depth >= MOST_DEPTH) {
+                return 0;
+            }
             switch (kind) {
                 case PLAIN:
                     deed.begin(13);
-                    return hears(deed, deed.own, x) ^ deed.a;
+                    return hears(deed, deed.own, x, depth + 1) ^ deed.a;
                 case LEAPER:
                     deed.begin(31);
-                    return tells(deed, PLAIN, x) + shares(deed, deed.own, deed.n);
+                    return tells(deed, PLAIN, x, depth + 1) + shares(deed, deed.own, deed.n, depth + 1);
                 case BLIND:
                     deed.begin(60);
-                    return tells(deed, LATE, x) * 2;
+                    return tells(deed, LATE, x, depth + 1) * 2;
                 default:
-                    return tells(deed, kindAbove(kind), x);
+                    return tells(deed, kindAbove(kind), x, depth + 1);
             }
         }
 
